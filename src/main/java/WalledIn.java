@@ -1339,8 +1339,9 @@ public final class WalledIn {
         // What the law says of a STONE hangs on how many are laid and their top alone, not on the
         // set: so few answers are kept that each is asked for once. NONE: it may not be laid.
         private final int[] lifts = new int[MOST_STONES * MOST_STONES * TOPS];
-        private final int[] ways = new int[SETS];
-        private final int[] ahead = new int[SETS];
+        // Of each set first how many ORDERS it has (countWays), then the least LIFT that is left
+        // from it on (measure): one row for both, as a new object should take little room.
+        private final int[] ofSet = new int[SETS];
         private final int[] order = new int[MOST_STONES];
         private final Law law = new Law();
         private boolean isKnown = false;
@@ -1362,20 +1363,20 @@ public final class WalledIn {
             }
             Arrays.fill(lifts, UNKNOWN);
             countWays(state, state.stones.count, false);
-            ordersOfAll = ways[state.stones.all()];
+            ordersOfAll = ofSet[state.stones.all()];
             int target = lowestOfMost(state.stones.all());
             measure(state, target);
             choose(state, target);
             isKnown = true;
         }
 
-        /** In ways: how many ORDERS of just that set there are, up to so many STONES. */
+        /** In ofSet: how many ORDERS of just that set there are, up to so many STONES. */
         private void countWays(State state, int most, boolean bySounds) {
-            Arrays.fill(ways, 0);
-            ways[0] = 1;
+            Arrays.fill(ofSet, 0);
+            ofSet[0] = 1;
             int all = state.stones.all();
             for (int set = 0; set < SETS && set <= all; set++) {
-                if (ways[set] != 0 && Integer.bitCount(set) < most) {
+                if (ofSet[set] != 0 && Integer.bitCount(set) < most) {
                     spread(state, set, bySounds);
                 }
             }
@@ -1389,7 +1390,7 @@ public final class WalledIn {
                 boolean isNext = (set >> i & 1) == 0
                     && (!bySounds || state.sounds.isFit(laid, stones.height[i]));
                 if (isNext && liftUpon(state, i, set, top) != NONE) {
-                    ways[set | 1 << i] += ways[set];
+                    ofSet[set | 1 << i] += ofSet[set];
                 }
             }
         }
@@ -1414,19 +1415,19 @@ public final class WalledIn {
         private int lowestOfMost(int all) {
             int best = 0;
             for (int set = 1; set < SETS && set <= all; set++) {
-                if (ways[set] != 0 && Integer.bitCount(set) > Integer.bitCount(best)) {
+                if (ofSet[set] != 0 && Integer.bitCount(set) > Integer.bitCount(best)) {
                     best = set;
                 }
             }
             return best;
         }
 
-        /** In ahead: the least LIFT that is left from a set (that can be) on to the target. */
+        /** In ofSet: the least LIFT that is left from a set on to the target, FAR if there is none. */
         private void measure(State state, int target) {
-            ahead[target] = 0;
+            ofSet[target] = 0;
             for (int set = target - 1; set >= 0; set--) {
-                boolean isOnTheWay = (set & ~target) == 0 && ways[set] != 0;
-                ahead[set] = isOnTheWay ? leastAhead(state, set, target) : FAR;
+                boolean isOnTheWay = (set & ~target) == 0 && ofSet[set] != 0;
+                ofSet[set] = isOnTheWay ? leastAhead(state, set, target) : FAR;
             }
         }
 
@@ -1437,7 +1438,7 @@ public final class WalledIn {
                 if (((target & ~set) >> i & 1) == 1) {
                     int step = liftUpon(state, i, set, top);
                     if (step != NONE) {
-                        best = Math.min(best, step + ahead[set | 1 << i]);
+                        best = Math.min(best, step + ofSet[set | 1 << i]);
                     }
                 }
             }
@@ -1445,7 +1446,7 @@ public final class WalledIn {
         }
 
         private void choose(State state, int target) {
-            lift = ahead[0];
+            lift = ofSet[0];
             length = Integer.bitCount(target);
             int set = 0;
             for (int place = 0; place < length && place < MOST_STONES; place++) {
@@ -1460,7 +1461,7 @@ public final class WalledIn {
             for (int i = 0; i < state.stones.count; i++) {
                 if (((target & ~set) >> i & 1) == 1) {
                     int step = liftUpon(state, i, set, top);
-                    if (step != NONE && step + ahead[set | 1 << i] == ahead[set]) {
+                    if (step != NONE && step + ofSet[set | 1 << i] == ofSet[set]) {
                         return i;
                     }
                 }
@@ -1476,8 +1477,8 @@ public final class WalledIn {
             heardInEach = all;
             heardInSome = 0;
             for (int set = 0; set < SETS && set <= all; set++) {
-                if (ways[set] != 0 && Integer.bitCount(set) == most) {
-                    heardOrders += ways[set];
+                if (ofSet[set] != 0 && Integer.bitCount(set) == most) {
+                    heardOrders += ofSet[set];
                     heardInEach &= set;
                     heardInSome |= set;
                 }
