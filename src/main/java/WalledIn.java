@@ -95,10 +95,10 @@ public final class WalledIn {
 
     public int stone(int weight, int height, int vein, int bearers, int need) {
         Stones stones = now.stones;
-        boolean isSound = weight >= 1 && weight <= 99 && height >= 0 && height <= MOST_HEIGHT
+        boolean isRight = weight >= 1 && weight <= 99 && height >= 0 && height <= MOST_HEIGHT
             && vein >= 0 && vein <= 99 && stones.areTold(bearers)
             && need >= 0 && need <= Integer.bitCount(bearers);
-        if (!isSound || stones.count >= MOST_STONES) {
+        if (!isRight || stones.count >= MOST_STONES) {
             return NONE;
         }
         plan.forget();
@@ -383,13 +383,13 @@ public final class WalledIn {
     }
 
     public int image() {
-        kept.takeAll(now);
+        kept.become(now);
         return Integer.bitCount(now.laid);
     }
 
     public int back() {
         plan.forget();
-        now.takeAll(kept);
+        now.become(kept);
         return Integer.bitCount(now.laid);
     }
 
@@ -477,7 +477,7 @@ public final class WalledIn {
             return hasText(ruling) ? texts[ruling] : noText;
         }
 
-        private void takeAll(State other) {
+        private void become(State other) {
             stones.takeAll(other.stones);
             houses.takeAll(other.houses);
             sounds.takeAll(other.sounds);
@@ -867,7 +867,7 @@ public final class WalledIn {
                 numbers[tokens] = takeDigits();
                 return NUMBER;
             }
-            return takeSign(first);
+            return takeMark(first);
         }
 
         private int takeWord() {
@@ -909,7 +909,7 @@ public final class WalledIn {
             return value;
         }
 
-        private int takeSign(int first) {
+        private int takeMark(int first) {
             int place = SIGNS.indexOf((char) first);
             at++;
             if (place < 0) {
@@ -1290,14 +1290,14 @@ public final class WalledIn {
                     }
                 } else if (piled >= 2) {
                     piled--;
-                    long value = join(deed, pile[piled - 1], pile[piled]);
+                    long value = outcome(deed, pile[piled - 1], pile[piled]);
                     pile[piled - 1] = (int) Math.max(-BOUND, Math.min(BOUND, value));
                 }
             }
             return piled >= 1 ? pile[piled - 1] : 0;
         }
 
-        private long join(int deed, long a, long b) {
+        private long outcome(int deed, long a, long b) {
             switch (deed) {
                 case PLUS:
                     return a + b;
@@ -1422,7 +1422,7 @@ public final class WalledIn {
             return best;
         }
 
-        /** In ofSet: the least LIFT that is left from a set on to the target, FAR if there is none. */
+        /** In ofSet: the least LIFT that is left from a set to the target; FAR: no way leads. */
         private void measure(State state, int target) {
             ofSet[target] = 0;
             for (int set = target - 1; set >= 0; set--) {
