@@ -5,7 +5,8 @@ import java.util.Random;
 /** Runs of calls by chance (always the same), held against Slow: every promise is in them. */
 public final class RandomRuns {
     private static final int RUNS = 1000;
-    private static final int CALLS = 500;
+    // What is asked together may go on behind this: the 512 that are promised are not passed.
+    private static final int CALLS = 480;
 
     private final Random random;
     private final WalledIn fast = new WalledIn();
@@ -148,7 +149,7 @@ public final class RandomRuns {
     }
 
     private void tellStone() {
-        int n = fast.about(0);
+        int n = slow.about(0);
         int weight = some(1, 99);
         int height = random.nextBoolean() ? some(0, 20) : some(0, 3);
         int vein = some(0, 99);
@@ -192,13 +193,13 @@ public final class RandomRuns {
         int what = some(0, 1);
         due("fault(" + what + ")", fast.fault(what), slow.fault(what));
         if (random.nextBoolean()) {
-            int t = fast.about(4) - 1;
+            int t = slow.about(4) - 1;
             due("by(" + t + ")", fast.by(t), slow.by(t));
         }
     }
 
     private void feed(String text) {
-        int had = Math.max(0, fast.about(8));
+        int had = Math.max(0, slow.about(8));
         for (int i = 0; i < text.length(); i += 20) {
             int a = Check.four(text, i);
             int b = Check.four(text, i + 4);
@@ -294,11 +295,11 @@ public final class RandomRuns {
                 due("of(" + s + ", " + what + ")", fast.of(s, what), slow.of(s, what));
                 break;
             case 2:
-                int set = some(0, (1 << Math.max(1, fast.about(0))) - 1);
+                int set = some(0, (1 << Math.max(1, slow.about(0))) - 1);
                 due("stands(" + set + ")", fast.stands(set), slow.stands(set));
                 break;
             case 3:
-                int l = random.nextInt(3) == 0 ? some(-2, 12) : some(-2, fast.about(0));
+                int l = random.nextInt(3) == 0 ? some(-2, 12) : some(-2, slow.about(0));
                 due("least(" + l + ")", fast.least(l), slow.least(l));
                 break;
             case 4:

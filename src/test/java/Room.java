@@ -37,7 +37,7 @@ public final class Room {
             x.touch(i, i + 1, true);
         }
         x.image();
-        for (int i = 0; i < 30; i++) {
+        for (int i = 0; i < 15; i++) {
             int text = readLongest(x);
             x.by(text);
             x.orders();
