@@ -28,6 +28,9 @@ final class EdgesOfHouses {
         oneStep();
         image();
         back();
+        backOfSounds();
+        backOfSteps();
+        backOfAnswers();
     }
 
     private static void tenHouses() {
@@ -504,8 +507,84 @@ final class EdgesOfHouses {
         brim.hour(0);
         brim.hush();
         brim.touch(0, 1, false);
+        brim.touch(0, 9, false);
+        brim.touch(8, 9, true);
         brim.by(-1);
         Edges.due("back()", brim.back(), Integer.bitCount(Towers.LAID_OF_BRIM));
         Edges.same("back to the brim", Whole.of(brim), Whole.of(Towers.brim()));
+    }
+
+    private static void backOfSounds() {
+        Edges.says("BACK: all is so again.");
+        WalledIn x = Edges.stones(12);
+        for (int i = 0; i < 8; i++) {
+            x.sound(i, i + 1);
+        }
+        x.image();
+        // The k-th is k or one more; from the first that is one more on, all are.
+        Edges.heard(x, 9, 0, 511);
+        for (int height : new int[] {0, 20}) {
+            x.hush();
+            for (int i = 0; i < 8; i++) {
+                x.sound(height, height);
+            }
+            Edges.due("others", x.heard(0), 0);
+            x.back();
+            Edges.heard(x, 9, 0, 511);
+        }
+    }
+
+    private static void backOfSteps() {
+        Edges.says("BACK: all is so again.");
+        WalledIn x = Edges.houses(99, 99);
+        x.touch(0, 1, true);
+        for (int i = 0; i < 40; i++) {
+            x.lend(0, 1);
+        }
+        x.image();
+        for (int i = 0; i < 30; i++) {
+            x.undo();
+        }
+        for (int i = 0; i < 45; i++) {
+            x.lend(1, 0);
+        }
+        x.back();
+        Edges.due("about(6)", x.about(6), 30);
+        for (int i = 29; i >= 0; i--) {
+            Edges.due("undo", x.undo(), i);
+            Edges.due("spare of 0", x.houseOf(0, 0), 99 - 10 - i);
+            Edges.due("owes of 1", x.houseOf(1, 1), 10 + i);
+        }
+        Edges.due("undo of none", x.undo(), -1);
+    }
+
+    /** What was found out ahead of it is not what is so then. */
+    private static void backOfAnswers() {
+        Edges.says("BACK: all is so again.");
+        WalledIn x = Edges.stones(3);
+        x.image();
+        Edges.due("orders", x.orders(), 6);
+        x.stone(1, 1, 1, 0, 0);
+        Edges.due("orders of one more", x.orders(), 24);
+        Edges.due("least of one more", x.least(-1), 4);
+        x.back();
+        Edges.order(x, 3, 0, 1, 2);
+        Edges.due("orders again", x.orders(), 6);
+        Edges.rule(x, "may hour=laid and stone+laid=2;");
+        Edges.order(x, 3, 2, 1, 0);
+        x.hour(1);
+        Edges.order(x, 0);
+        x.back();
+        Edges.order(x, 3, 0, 1, 2);
+        x.house(1);
+        x.house(0);
+        x.touch(0, 1, true);
+        x.image();
+        x.lend(0, 1);
+        Edges.due("winter of a debt", x.winter(), 1);
+        Edges.due("row of none", x.row(0, 1, -1), -1);
+        x.back();
+        Edges.due("winter again", x.winter(), 0);
+        Edges.due("row again", x.row(0, 1, -1), 2);
     }
 }

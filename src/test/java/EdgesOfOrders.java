@@ -5,6 +5,7 @@ final class EdgesOfOrders {
 
     static void all() {
         leastLift();
+        leastOfTheGreatest();
         likeOnes();
         theMost();
         lowestSet();
@@ -44,6 +45,33 @@ final class EdgesOfOrders {
         // The greater of two first steps can lead to the lesser sum.
         WalledIn y = Edges.rule(Edges.stones(2), "lift stone*(1+9*laid);");
         Edges.order(y, 1, 1, 0);
+    }
+
+    /** The law looks at the greatest heights there are, of the most stones there are. */
+    private static void leastOfTheGreatest() {
+        Edges.says("LEAST: an ORDER of all STONES with the least LIFT,");
+        WalledIn x = new WalledIn();
+        for (int i = 0; i < 12; i++) {
+            x.stone(1, 20 - i, 0, 0, 0);
+        }
+        Edges.rule(x, "lift top+1;");
+        Edges.order(x, 165, 11, 10, 9, 8, 7, 6, 5, 4, 3, 2, 1, 0);
+        Edges.rule(x, "may top#20;");
+        Edges.due("the highest is the last", x.orders(), 39916800);
+        Edges.rule(x, "may top<0 or top>19;");
+        Edges.due("the highest is the first", x.orders(), 39916800);
+        WalledIn y = new WalledIn();
+        for (int i = 0; i < 12; i++) {
+            y.stone(99, 20, 99, 0, 0);
+        }
+        Edges.due("99 times 20, twelve times", y.least(-2), 12 * 1980);
+        Edges.rule(y, "lift laid;");
+        Edges.order(y, 66, 0, 1, 2, 3, 4, 5, 6, 7, 8, 9, 10, 11);
+        Edges.due("all orders", y.orders(), 479001600);
+        // Upon 1 alone 0 may not be laid, though upon both of them one lift would be left.
+        WalledIn z = Edges.rule(Edges.stones(3), "may laid#1 or top#1 or stone#0;"
+            + "lift (2-laid)*(1-laid)*5*(stone-1)*(stone-1)+laid*(laid-1)/2*(stone/2);");
+        Edges.order(z, 0, 1, 2, 0);
     }
 
     private static void likeOnes() {

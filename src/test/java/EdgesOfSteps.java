@@ -15,6 +15,7 @@ final class EdgesOfSteps {
         thirtySteps();
         thirtyOneSteps();
         latestFirst();
+        ofAllHouses();
         houseToldSince();
     }
 
@@ -209,63 +210,57 @@ final class EdgesOfSteps {
         Edges.due("nothing to take back", x.undo(), -1);
     }
 
-    /** The k-th step, from 0 on, lays or takes out stone 0, and 1 is laid by step 40 alone. */
+    /** Each of n lendings leaves one less to house 0, of 99: how many were done can be seen. */
     private static WalledIn afterSteps(int n) {
-        WalledIn x = Edges.stones(2);
-        for (int i = 0; i < n; i++) {
-            Edges.due("step " + i, i % 2 == 0 ? x.lay(0) : x.out(0), 0);
-            Edges.due("steps", x.about(6), Math.min(30, i + 1));
+        WalledIn x = Edges.houses(99, 0);
+        x.touch(0, 1, true);
+        for (int i = 1; i <= n; i++) {
+            Edges.due("step " + i, x.lend(0, 1), 99 - i);
+            Edges.due("steps", x.about(6), Math.min(30, i));
         }
         return x;
     }
 
-    private static void undoAll(WalledIn x, int n) {
-        for (int i = n - 1; i >= 0; i--) {
-            Edges.due("undo to " + i, x.undo(), i);
-            Edges.due("about(6)", x.about(6), i);
+    /** Takes back all that can be, from where so many were done on. */
+    private static void undoAll(WalledIn x, int done) {
+        int can = Math.min(30, done);
+        for (int i = 1; i <= can; i++) {
+            Edges.due("undo " + i + " of " + done, x.undo(), can - i);
+            Edges.due("about(6)", x.about(6), can - i);
+            Edges.due("spare of 0", x.houseOf(0, 0), 99 - done + i);
+            Edges.due("owes of 1", x.houseOf(1, 1), done - i);
         }
         Edges.due("undo of none", x.undo(), -1);
         Edges.due("about(6) of none", x.about(6), 0);
+        Edges.due("spare of 0 stays", x.houseOf(0, 0), 99 - done + can);
     }
 
     private static void thirtySteps() {
         Edges.says("the latest 30 can be taken back,");
-        WalledIn x = afterSteps(29);
-        undoAll(x, 29);
-        Edges.due("laid at first", x.about(1), 0);
-        x = afterSteps(30);
+        undoAll(afterSteps(1), 1);
+        undoAll(afterSteps(29), 29);
+        WalledIn x = afterSteps(30);
         undoAll(x, 30);
-        Edges.due("laid at first", x.about(1), 0);
-        x.lay(1);
-        Edges.due("from none on: one", x.about(6), 1);
-        Edges.due("undo", x.undo(), 0);
+        Edges.due("from none on", x.lend(0, 1), 98);
+        Edges.due("one", x.about(6), 1);
+        undoAll(x, 1);
     }
 
     private static void thirtyOneSteps() {
         Edges.says("the latest 30 can be taken back,");
-        WalledIn x = afterSteps(31);
-        undoAll(x, 30);
-        Edges.due("laid after the first", x.about(1), 1);
-        x = afterSteps(32);
-        undoAll(x, 30);
-        Edges.due("laid after two", x.about(1), 0);
-        x = afterSteps(61);
-        undoAll(x, 30);
-        Edges.due("laid after 31", x.about(1), 1);
-        x = afterSteps(90);
-        undoAll(x, 30);
-        Edges.due("laid after 60", x.about(1), 0);
-        x = afterSteps(31);
-        for (int i = 29; i >= 10; i--) {
+        for (int n : new int[] {31, 32, 59, 60, 61, 90, 91, 99}) {
+            undoAll(afterSteps(n), n);
+        }
+        WalledIn x = afterSteps(45);
+        for (int i = 0; i < 20; i++) {
             x.undo();
         }
-        for (int i = 0; i < 25; i++) {
-            x.lay(1);
-            x.out(1);
+        Edges.due("ten are left", x.about(6), 10);
+        for (int i = 26; i <= 60; i++) {
+            Edges.due("step " + i, x.lend(0, 1), 99 - i);
         }
-        Edges.due("10 and 50 more", x.about(6), 30);
-        undoAll(x, 30);
-        Edges.due("laid after 11 and 20", x.about(1), 1);
+        Edges.due("30 again", x.about(6), 30);
+        undoAll(x, 60);
     }
 
     private static void latestFirst() {
@@ -296,6 +291,37 @@ final class EdgesOfSteps {
         Edges.due("undo lay", y.undo(), 0);
         Edges.due("laid", y.about(1), 0);
         Edges.due("undo of none", y.undo(), -1);
+    }
+
+    private static void ofAllHouses() {
+        Edges.says("the latest first");
+        WalledIn x = Edges.houses(2, 3, 4, 5, 6, 7, 8, 9, 10, 11);
+        Edges.touchAll(x, 10);
+        for (int i = 0; i < 10; i++) {
+            x.lend(i, (i + 1) % 10);
+            x.lend(i, (i + 4) % 10);
+        }
+        Edges.due("can be taken back", x.about(6), 20);
+        for (int i = 19; i >= 0; i--) {
+            Edges.due("undo", x.undo(), i);
+        }
+        for (int i = 0; i < 10; i++) {
+            Edges.due("spare of " + i, x.houseOf(i, 0), i + 2);
+            Edges.due("owes of " + i, x.houseOf(i, 1), 0);
+        }
+        x.lend(9, 8);
+        x.lend(9, 8);
+        x.undo();
+        Edges.due("one of two taken back: owes of 9", x.houseOf(9, 1), -1);
+        Edges.due("one of two taken back: owes of 8", x.houseOf(8, 1), 1);
+        Edges.due("one of two taken back: spare of 9", x.houseOf(9, 0), 10);
+        x.undo();
+        x.town(8, 99);
+        x.undo();
+        for (int i = 0; i < 10; i++) {
+            Edges.due("behind a town: spare of " + i, x.houseOf(i, 0), i + 2);
+            Edges.due("behind a town: owes of " + i, x.houseOf(i, 1), 0);
+        }
     }
 
     private static void houseToldSince() {

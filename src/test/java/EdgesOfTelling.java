@@ -24,6 +24,8 @@ final class EdgesOfTelling {
         end();
         text();
         textWithAFault();
+        textBehindAFault();
+        longestTexts();
         textBeyondFour();
         fault();
         faultForOthers();
@@ -277,6 +279,44 @@ final class EdgesOfTelling {
         Edges.due("the next one is the first", Check.read(x, "lay 0;"), 0);
         Edges.due("a fault in the last byte of 300", Check.read(x, " ".repeat(299) + "!"), -1);
         Edges.due("no text more", x.about(4), 1);
+    }
+
+    /** What stands open where a fault is leaves nothing to the next text. */
+    private static void textBehindAFault() {
+        Edges.says("NONE: it has a FAULT;");
+        String[] faulty = {"lift -!", "lift " + "(".repeat(8) + "!", "lift " + "-".repeat(9),
+            "lift 2*!", "lift 1+2*(3", "may not not 1<!", "may 1<2 and", "may 1<2 or not",
+            "lay 0;".repeat(24) + "lay", "lift 1;may 1<2;fits 1<2;!", "lend 1 to"};
+        for (String text : faulty) {
+            WalledIn x = Edges.stones(1);
+            Edges.due("text() of " + text, Check.read(x, text), -1);
+            Edges.rule(x, "lift " + "(".repeat(8) + "5" + ")".repeat(8) + ";may "
+                + "not ".repeat(8) + "1<2;fits quarry=-(-1);lay 0;out 0;");
+            Edges.due("behind " + text + ": lift", x.of(0, 2), 5);
+            Edges.due("behind " + text + ": may", x.of(0, 1), 1);
+            Edges.due("behind " + text + ": fits", x.of(0, 3), 2);
+            Edges.due("behind " + text + ": played", x.played(0), -1);
+            Edges.due("behind " + text + ": steps", x.about(6), 2);
+        }
+    }
+
+    private static void longestTexts() {
+        Edges.says("The tape (empty then) is a TEXT: its number.");
+        WalledIn x = Edges.stones(1);
+        for (int i = 0; i < 4; i++) {
+            Check.read(x, "lift 1" + "+1".repeat(140) + "+!");
+            Check.read(x, "lift 1" + "+1".repeat(140) + "+" + (1000 * i) + ";");
+        }
+        for (int i = 0; i < 4; i++) {
+            Edges.due("by(" + i + ")", x.by(i), true);
+            Edges.due("lift by text " + i, x.of(0, 2), 141 + 1000 * i);
+        }
+        WalledIn y = Edges.stones(1);
+        Edges.rule(y, "lift 1" + "+1".repeat(40) + ";may 2" + "-1".repeat(40) + "<0;fits 5"
+            + "+1*0".repeat(20) + "=quarry;");
+        Edges.due("of three laws: lift", y.of(0, 2), 41);
+        Edges.due("of three laws: may", y.of(0, 1), 1);
+        Edges.due("of three laws: fits", y.of(0, 3), 32);
     }
 
     private static void textBeyondFour() {

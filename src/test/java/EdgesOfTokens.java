@@ -67,6 +67,11 @@ final class EdgesOfTokens {
         Edges.due("145 ones", y.of(0, 2), 145);
         Edges.due("the longest number", Edges.ruled("lift" + "0".repeat(291) + "9876;").of(0, 2),
             9876);
+        Edges.fault(";".repeat(300), 1, 0);
+        Edges.fault("lift" + "-".repeat(296), 3, 12);
+        Edges.fault("lay 1" + ";".repeat(295), 1, 6);
+        Edges.right("lift1" + "+1".repeat(147) + ";");
+        Edges.fault("lift1" + "+1".repeat(147) + "+", 1, 300);
         WalledIn z = new WalledIn();
         for (int i = 0; i < 15; i++) {
             z.feed(0x20202020, 0x20202020, 0x20202020, 0x20202020, 0x20202020);
@@ -127,7 +132,8 @@ final class EdgesOfTokens {
         for (int c = 0; c < 256; c++) {
             String text = "lift 1" + (char) c + "1;";
             if (isDigit(c)) {
-                Edges.due("the digit " + (char) c, Edges.ruled(text).of(0, 2), 101 + 10 * (c - '0'));
+                int want = 101 + 10 * (c - '0');
+                Edges.due("the digit " + (char) c, Edges.ruled(text).of(0, 2), want);
             } else if ("+-*/".indexOf(c) >= 0) {
                 Edges.right(text);
             } else {
@@ -329,6 +335,15 @@ final class EdgesOfTokens {
                 Edges.may("not " + left + signs[i] + "weight", !so[i][left - 6]);
                 Edges.may("not not " + left + signs[i] + "weight", so[i][left - 6]);
             }
+        }
+        for (String sum : new String[] {"5+2", "9-2", "-2+9", "21/3", "(3+4)", "7*1", "1*6+1"}) {
+            Edges.may("weight<" + sum, false);
+            Edges.may("weight=" + sum, true);
+            Edges.may("weight>=" + sum, true);
+            Edges.may(sum + "#weight", false);
+            Edges.may(sum + "+1<=weight", false);
+            Edges.may(sum + "<=weight-1", false);
+            Edges.may(sum + "-1=weight-1", true);
         }
         Edges.may("not 1=2 and 1=2", false);
         Edges.may("not 1=1 or 1=1", true);
