@@ -45,7 +45,8 @@ public final class LanguageRules {
         List<String> none = List.of("\\bthrow\\b", "\\bthrows\\b", "\\btry\\b", "\\bcatch\\b",
             "\\bsynchronized\\b", "\\bassert\\b", "->", "::", "\\bThread\\b", "\\bRandom\\b",
             "\\bSystem\\.(?!arraycopy)", "\\bequals\\b", "\\bhashCode\\b", "\\btoString\\b",
-            "\\bprotected\\b", "Exact\\b", "\\bstatic \\{", "[^\\x00-\\x7f]", "\\bdouble\\b");
+            "\\bprotected\\b", "Exact\\b", "\\bstatic \\{", "[^\\x00-\\x7f]", "\\bdouble\\b",
+            "\\bfloat\\b", "\"\" *\\+", "\\+ *\"\"", "\\bvar\\b", "\\bObject\\b");
         for (String pattern : none) {
             CHECK.due("uses of " + pattern, count(code, pattern), 0);
         }
