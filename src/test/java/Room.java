@@ -1,23 +1,59 @@
 import java.lang.management.ManagementFactory;
+import java.lang.reflect.Array;
+import java.lang.reflect.Field;
+import java.lang.reflect.Modifier;
+import java.util.Collections;
+import java.util.IdentityHashMap;
+import java.util.Set;
 
 /** The dearest calls: 512 on one object take little of the room that all calls of a run share. */
 public final class Room {
     // 7.3 million fields and elements, of four bytes at least; a tenth of it is plenty.
     private static final long MOST_BYTES = 7300000L * 4 / 10;
+    private static final long MOST_OBJECTS = 600000;
+    private static final long MOST_PARTS = 7300000;
     private static final Check CHECK = new Check();
+    private static final Set<Object> SEEN = Collections.newSetFromMap(new IdentityHashMap<>());
+    private static long parts = 0;
 
-    public static void main(String[] args) {
+    public static void main(String[] args) throws IllegalAccessException {
         // Once unmeasured: what the machine itself makes at first is not the program's.
         makeAndCall();
         long before = allocated();
         makeAndCall();
         long taken = allocated() - before;
         CHECK.due("512 calls take " + taken + " bytes, which is little", taken < MOST_BYTES, true);
-        before = allocated();
-        new WalledIn();
-        taken = allocated() - before;
-        CHECK.due("a new object takes " + taken + " bytes, little", taken < MOST_BYTES / 20, true);
+        count(new WalledIn());
+        CHECK.due("512 new objects are " + 512 * SEEN.size() + " objects and arrays",
+            512 * SEEN.size() < MOST_OBJECTS, true);
+        CHECK.due("512 new objects have " + 512 * parts + " fields and elements",
+            512 * parts < MOST_PARTS, true);
         CHECK.endWith("room");
+    }
+
+    /** Counts an object with all that it holds: the objects in SEEN, their fields in parts. */
+    private static void count(Object what) throws IllegalAccessException {
+        if (what == null || !SEEN.add(what)) {
+            return;
+        }
+        if (what.getClass().isArray()) {
+            parts += Array.getLength(what);
+            if (what instanceof Object[] row) {
+                for (Object each : row) {
+                    count(each);
+                }
+            }
+            return;
+        }
+        for (Field field : what.getClass().getDeclaredFields()) {
+            if (!Modifier.isStatic(field.getModifiers())) {
+                parts++;
+                if (!field.getType().isPrimitive()) {
+                    field.setAccessible(true);
+                    count(field.get(what));
+                }
+            }
+        }
     }
 
     private static long allocated() {
